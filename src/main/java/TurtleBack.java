@@ -1503,7 +1503,6 @@ public final class TurtleBack {
 
         void draw(Life life, int n) {
             int lean = life.lean(0);
-            Arrays.fill(ways, 0);
             Arrays.fill(further, 0);
             put(NOT_YET, Sea.spotAt(life.now.cell, life.now.heading), 1);
             swap();

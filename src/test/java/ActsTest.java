@@ -136,6 +136,39 @@ public final class ActsTest {
         Due.is("what can't be taken back: the first six", x.house(0, 1), 0);
     }
 
+    /** Each act leaves another state: taking them back must go through the same states. */
+    private static void eachIsTakenBackAsItWas() {
+        TurtleBack x = turtle();
+        x.days(1);
+        String[] states = new String[60];
+        int made = 0;
+        for (int i = 0; made < 47 && i < 500; i++) {
+            String before = stateOf(x);
+            boolean done = false;
+            if (i % 4 == 0) done = x.move(i / 4 % 3, i / 12 % 3);
+            if (i % 4 == 1) done = x.tie(i / 4 % 2, i / 8 % 2 == 0);
+            if (i == 2) done = x.pay(2);
+            if (i == 22) done = x.pay(1);
+            if (i % 20 == 3) done = x.scrape(i / 20 % 3);
+            if (done) states[made++] = before;
+        }
+        Due.is("so many acts", made, 47);
+        Due.is("that can be taken back", x.size(12), 30);
+        for (int i = 0; i < 30; i++) {
+            Due.is("undo " + i, x.undo(), true);
+            Due.is("the state of act " + (46 - i) + " " + stateOf(x), stateOf(x).equals(states[46 - i]), true);
+        }
+        Due.refused(x, "no more", x.undo(), 6);
+    }
+
+    private static String stateOf(TurtleBack x) {
+        StringBuilder state = new StringBuilder();
+        for (int f = 0; f < 3; f++) state.append(x.family(f, 1)).append(' ');
+        for (int h = 0; h < 2; h++) state.append(x.house(h, 1)).append(' ');
+        for (int s = 0; s < 3; s++) state.append(x.scute(s, 2)).append(' ');
+        return state.append(x.now(4)).append(' ').append(x.pleased()).toString();
+    }
+
     public static void main(String[] args) {
         moves();
         ties();
@@ -143,6 +176,7 @@ public final class ActsTest {
         scrapes();
         takesBack();
         thirtyAtMost();
+        eachIsTakenBackAsItWas();
         Due.end();
     }
 }

@@ -127,13 +127,22 @@ public final class BeastTest {
     }
 
     private static void aBeastBeginsAnew() {
-        TurtleBack x = Due.told(Due.PLAIN);
-        x.seed(9);
-        x.days(5);
+        TurtleBack x = Due.told(Due.PLAIN + ";isle near at 5,4 from 1 to 1 buys 1;moult right day 4");
+        x.seed(1);
         x.tie(0, true);
         x.move(0, 0);
+        x.days(5);
+        x.scrape(0);
+        x.tie(0, false);
         x.image();
         x.seen(0, 1, 1);
+        x.undo();
+        int[] before = {5, 1, 1, 1};
+        int[] got = {x.size(7), x.size(10), x.size(11), x.size(12)};
+        for (int i = 0; i < before.length; i++) Due.is("ahead of a new beast, " + i, got[i], before[i]);
+        Due.is("a house is tied", x.house(0, 1), 1);
+        Due.is("families are lost", x.family(0, 0) + x.family(1, 0), 2);
+        Due.is("a scute is gone", x.scute(2, 0), 1);
         Due.is("beast", Due.tell(x, WHOLE + ";weed at 0, 0"), 1);
         int[] sizes = {1, 0, 0, 0, 1, 0, 0, 0, 0, 0, 0, 0, 0};
         for (int i = 0; i < sizes.length; i++) Due.is("size(" + i + ")", x.size(i), sizes[i]);
@@ -146,7 +155,28 @@ public final class BeastTest {
         Due.is("the first again", Due.tell(x, Due.PLAIN), 3);
         Due.is("not tied", x.house(0, 1), 0);
         Due.is("there", x.house(1, 0), 0);
-        Due.is("at home", x.family(0, 1), 1);
+        for (int f = 0; f < 2; f++) {
+            Due.is("there", x.family(f, 0), 0);
+            Due.is("at home", x.family(f, 1), 1 + f);
+            Due.is("nothing is gone", x.scute(1 + f, 0), 0);
+            Due.is("no barnacles", x.scute(1 + f, 2), 0);
+        }
+    }
+
+    /** What an isle bought, and whom it claimed, goes with the beast. */
+    private static void islesBeginAnew() {
+        String text = LAW.replace("dives 1 calm 1", "dives 9 calm 0") + ";begins at 5,5 heads 0;" + SCUTE
+                + ";isle i at 5,4 from 1 to 9 buys 3";
+        TurtleBack x = Due.told(text);
+        for (int round = 0; round < 2; round++) {
+            Due.is("nothing bought", x.now(6), 0);
+            Due.is("not claimed", x.now(7), 0);
+            x.days(3);
+            Due.is("bought", x.now(6), 1);
+            Due.is("claimed", x.now(7), 1);
+            Due.is("COINS", x.now(4), 3);
+            Due.tell(x, text);
+        }
     }
 
     /** A text, its fault, its place. */
@@ -341,6 +371,7 @@ public final class BeastTest {
         beastReadsTheFirstBytes();
         aFaultLeavesTheBeast();
         aBeastBeginsAnew();
+        islesBeginAnew();
         faultsOfForm();
         eachTokenOfALineIsNeeded();
         blanksPartTokensAlone();

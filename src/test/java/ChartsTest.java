@@ -98,6 +98,22 @@ public final class ChartsTest {
         Due.is("by whims", paid.may(1), 3);
     }
 
+    private static void chartsOfACorner() {
+        TurtleBack x = turtle("dives 30 calm 0 hungry 30", "at 0,0 heads 0", SCUTE);
+        for (int what = 0; what < 4; what++) {
+            Due.is("span(0, " + what + ")", x.span(0, what), 0);
+            Due.is("span(3, " + what + ")", x.span(3, what), what < 2 ? 0 : 2);
+        }
+        Due.is("may(0)", x.may(0), 1);
+        waysAre(x, 1, 0, 0, 3);
+        x.seen(0, 0, 1);
+        x.seen(1, 0, 0);
+        x.seen(2, 0, 0);
+        Due.is("fits", x.fits(), 3);
+        for (int what = 0; what < 4; what++) Due.is("was(1, " + what + ")", x.was(1, what), 0);
+        Due.is("was(2, 0)", x.was(2, 0), 0);
+    }
+
     private static void chartsThatAreRefused() {
         TurtleBack x = turtle("dives 30 calm 9 hungry 30", "at 5,5 heads 0", SCUTE);
         int[][] wrong = {{-1, 0, 0}, {13, 0, 0}, {0, -1, 0}, {0, 10, 0}, {0, 0, -1}, {0, 0, 10}};
@@ -190,6 +206,12 @@ public final class ChartsTest {
         Due.is("fits", x.fits(), 8);
         x.days(3);
         Due.is("SEEN stays", x.size(10), 1);
+        Due.is("was(0, 3)", x.was(0, 3), 9);
+        Due.refused(x, "was(1, 3)", x.was(1, 3), -1, 6);
+        TurtleBack corner = turtle("dives 30 calm 9 hungry 30", "at 1,1 heads 0", SCUTE);
+        corner.seen(0, 0, 0);
+        Due.is("fits", corner.fits(), 8);
+        Due.is("was(0, 0)", corner.was(0, 0), 0);
     }
 
     public static void main(String[] args) {
@@ -197,6 +219,7 @@ public final class ChartsTest {
         otherDaysHaveThreeAlike();
         hungerTurnsItToWeed();
         itIsDrawnAsItIsNow();
+        chartsOfACorner();
         chartsThatAreRefused();
         seenAddsUp();
         fitsSwimThrough();

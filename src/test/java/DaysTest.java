@@ -183,6 +183,11 @@ public final class DaysTest {
         Due.is("as bits", y.now(6), 8);
         y.days(1);
         Due.is("another isle in between", y.now(4), 10 + 3 + 20);
+        TurtleBack once = Due.turtle(STEADY, "at 5,1 heads 0", SCUTE + ";isle i at 5,0 from 1 to 9 buys 7");
+        once.days(1);
+        Due.is("it buys", once.now(4), 7);
+        once.days(1);
+        Due.is("there still, but once", once.now(4), 7);
         y.days(60);
         y.days(60);
         Due.is("each buys once, the families are lost on day 30", y.now(4), 60 + 3 + 20);
@@ -370,6 +375,8 @@ public final class DaysTest {
         Due.is("LOAD", x.scute(2, 1), 21);
         Due.is("judge", x.judge(), 2);
         Due.is("trouble", x.trouble(), 0);
+        TurtleBack first = Due.turtle(STEADY, "at 5,5 heads 0", "scute a at 0,0 holds 9;family f on a weighs 10");
+        Due.is("of all the first", first.judge(), 0);
         TurtleBack y = Due.turtle(STEADY, "at 5,5 heads 0", "scute a at 0,0 holds 9;scute b at 0,0 holds 9"
                 + ";family f on b weighs 10;scute c at 0,0 holds 9;family g on c weighs 10;moult b day 1;moult c day 2");
         Due.is("the first", y.judge(), 1);

@@ -85,6 +85,15 @@ public final class HelmTest {
         Due.is("n isn't", x.trim(0, 5), 1);
         Due.is("f", x.trimAt(0, 5, 0), 1);
         Due.refused(x, "g isn't there", x.trimAt(0, 5, 1), -1, 1);
+        TurtleBack later = turtle("scute m at 5,5 holds 90;scute k at 9,9 holds 90;scute n at 5,6 holds 90;scute r at 8,5 holds 90"
+                + ";family f on r weighs 5;family g on m weighs 1;moult m day 1");
+        later.days(1);
+        trimIs(later, 0, 5, 1, 2);
+        TurtleBack two = turtle("scute m at 5,5 holds 90;scute n at 5,6 holds 90;scute r at 8,5 holds 90"
+                + ";family f on r weighs 5;family g on r weighs 5;moult m day 1");
+        two.days(1);
+        Due.is("m is gone for the second, too", two.trim(15, 0), -2);
+        trimIs(two, 15, 5, 1, 1, 2);
     }
 
     private static void trimsThatAreRefused() {
@@ -160,6 +169,22 @@ public final class HelmTest {
         courseIs(left, 3, 4, 0, 0);
     }
 
+    private static void fortyDaysAtMost() {
+        String rest = "scute r at 6,5 holds 90;house h on r weighs 10 ties 1 worth 1";
+        TurtleBack x = Due.turtle("keel 5 mid 5 feels 10 dives 30 calm 0 hungry 30", "at 9,9 heads 4", rest);
+        Due.is("40 days to the right", x.steer(1, 7), 40);
+        for (int i = 0; i < 40; i++) Due.is("turn " + i, x.turn(1, 7, i), 2);
+        Due.refused(x, "turn 40", x.turn(1, 7, 40), -1, 6);
+        TurtleBack y = Due.turtle("keel 5 mid 5 feels 10 dives 30 calm 0 hungry 30", "at 9,9 heads 7", rest);
+        Due.is("41 days to the right", y.steer(2, 3), -2);
+        Due.is("trouble of what can't be", y.trouble(), 0);
+        Due.refused(y, "turn 0", y.turn(2, 3, 0), -1, 6);
+        TurtleBack corner = Due.turtle("keel 5 mid 5 feels 10 dives 30 calm 0 hungry 30", "at 0,1 heads 0",
+                "scute m at 5,5 holds 90");
+        courseIs(corner, 0, 0, 1);
+        courseIs(corner, 0, 2, 1, 1, 1, 1);
+    }
+
     private static void coursesThatAreRefused() {
         TurtleBack x = turtle("scute m at 5,5 holds 90");
         int[][] none = {{-1, 0}, {0, -1}, {10, 0}, {0, 10}};
@@ -186,6 +211,7 @@ public final class HelmTest {
         helms();
         courses();
         coursesOfAHelm();
+        fortyDaysAtMost();
         coursesThatAreRefused();
         whatACourseLeavesAside();
         Due.end();

@@ -1,7 +1,7 @@
 /** Promises 38 to 42: images to go on from, what is told of all, trouble. */
 public final class ImagesTest {
     private static int[] allOf(TurtleBack x) {
-        int[] all = new int[60];
+        int[] all = new int[70];
         int n = 0;
         for (int what = 0; what < 8; what++) all[n++] = x.now(what);
         all[n++] = x.pleased();
@@ -28,7 +28,8 @@ public final class ImagesTest {
     }
 
     private static void imagesHoldAllAsItIs() {
-        TurtleBack x = Due.told(Due.PLAIN + ";moult right day 4");
+        TurtleBack x = Due.told(Due.PLAIN + ";moult right day 4;isle near at 5,4 from 2 to 99 buys 5"
+                + ";isle first at 6,4 from 1 to 99 buys 5");
         x.seed(77);
         x.days(1);
         x.tie(0, true);
@@ -60,12 +61,70 @@ public final class ImagesTest {
         Due.is("restore(0)", x.restore(0), true);
         same("by the first once more", x, first);
         Due.is("not gone yet", x.scute(2, 0), 0);
+        x.seed(4);
+        x.move(1, 1);
+        x.pay(1);
+        x.days(6);
+        Due.is("restore(0)", x.restore(0), true);
+        same("behind other days", x, first);
         x.tie(1, true);
         Due.is("image()", x.image(), 2);
         x.restore(2);
         Due.is("tied by the third", x.house(1, 1), 1);
         x.restore(0);
         same("an image is not what is now", x, first);
+    }
+
+    /** The log of an image, where the draws lead elsewhere. */
+    private static void imagesHoldTheLog() {
+        TurtleBack x = Due.told(Due.PLAIN);
+        x.seed(1);
+        x.days(3);
+        int[] firsts = new int[4];
+        int[] seconds = new int[4];
+        for (int t = 0; t < 4; t++) {
+            firsts[t] = x.log(t, 0);
+            seconds[t] = x.log(t, 1);
+        }
+        Due.is("image()", x.image(), 0);
+        Due.tell(x, "");
+        Due.is("an image is of the beast that stays", x.restore(0), true);
+        TurtleBack y = Due.told(Due.PLAIN.replace("dives 3", "dives 30"));
+        y.image();
+        y.days(2);
+        y.image();
+        int was = y.log(1, 0);
+        int second = y.log(1, 1);
+        y.restore(0);
+        y.seed(875);
+        y.days(2);
+        Due.is("another way", y.log(1, 0) != was || y.log(1, 1) != second, true);
+        y.restore(1);
+        Due.is("the log of the image", y.log(1, 0), was);
+        Due.is("the log of the image", y.log(1, 1), second);
+        for (int t = 0; t < 4; t++) {
+            Due.is("first of day " + t, x.log(t, 0), firsts[t]);
+            Due.is("second of day " + t, x.log(t, 1), seconds[t]);
+        }
+    }
+
+    /** What isles bought, where families live, is of the image. */
+    private static void imagesHoldIslesAndHomes() {
+        TurtleBack x = Due.told(Due.PLAIN.replace("calm 5", "calm 0").replace("field on head itch 1;", ""));
+        x.image();
+        x.move(0, 0);
+        x.days(2);
+        Due.is("the isle bought", x.now(6), 1);
+        Due.is("moved", x.family(0, 1), 0);
+        x.image();
+        x.restore(0);
+        Due.is("not yet", x.now(6), 0);
+        Due.is("at home", x.family(0, 1), 1);
+        x.days(2);
+        Due.is("COINS", x.now(4), 2 * 2 + 7);
+        x.restore(1);
+        Due.is("bought", x.now(6), 1);
+        Due.is("moved", x.family(0, 1), 0);
     }
 
     private static void fourImagesAtMost() {
@@ -149,6 +208,8 @@ public final class ImagesTest {
 
     public static void main(String[] args) {
         imagesHoldAllAsItIs();
+        imagesHoldTheLog();
+        imagesHoldIslesAndHomes();
         fourImagesAtMost();
         theLostAreLed();
         sizes();
