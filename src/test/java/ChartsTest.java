@@ -106,6 +106,10 @@ public final class ChartsTest {
         }
         Due.is("may(0)", x.may(0), 1);
         waysAre(x, 1, 0, 0, 3);
+        TurtleBack weed = turtle("dives 30 calm 0 hungry 30", "at 0,1 heads 0", SCUTE + ";weed at 0,0");
+        waysAre(weed, 1, 0, 0, 3);
+        waysAre(weed, 2, 0, 0, 9);
+        waysAre(weed, 3, 0, 1, 27);
         x.seen(0, 0, 1);
         x.seen(1, 0, 0);
         x.seen(2, 0, 0);
