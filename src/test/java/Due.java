@@ -1,6 +1,9 @@
+import java.io.IOException;
+import java.nio.file.Files;
+import java.nio.file.Path;
 import java.util.NoSuchElementException;
 
-/** What the tests share: answers that are due, and beasts from a text. */
+/** What the tests share: answers that are due, the document's words they are due by, and beasts from a text. */
 final class Due {
     /** Two scutes beside the keel and one on it, a house and a family on each side. */
     static final String PLAIN = "law keel 1 mid 1 feels 10 dives 3 calm 5 hungry 4;begins at 5,5 heads 0;"
@@ -11,15 +14,34 @@ final class Due {
 
     private static int wrong = 0;
     private static int all = 0;
+    private static String document = "";
+    private static String words = "";
 
     private Due() {
+    }
+
+    /** The words of the document that the answers from here on are due by; told again with each that isn't. */
+    static void by(String sentence) {
+        words = "";
+        is("the document says '" + sentence + "'", document().contains(sentence), true);
+        words = "[" + sentence + "] ";
+    }
+
+    private static String document() {
+        if (!document.isEmpty()) return document;
+        try {
+            document = Files.readString(Path.of("../shared/DOC.md")).replaceAll("\\s+", " ");
+        } catch (IOException e) {
+            document = "(not there)";
+        }
+        return document;
     }
 
     static void is(String what, long got, long want) {
         all++;
         if (got == want) return;
         wrong++;
-        System.out.println(what + ": answered " + got + ", due is " + want);
+        System.out.println(words + what + ": answered " + got + ", due is " + want);
     }
 
     static void is(String what, boolean got, boolean want) {
@@ -60,6 +82,23 @@ final class Due {
         int scutes = tell(x, text);
         if (scutes < 1) is("a beast from '" + text + "': fault " + x.fault() + " at " + x.where(), scutes, 1);
         return x;
+    }
+
+    /** A text whose first fault is due at a place. */
+    static void fault(String text, int fault, int place) {
+        TurtleBack x = new TurtleBack();
+        refused(x, "beast of '" + text + "'", tell(x, text), -1, 4);
+        is("fault of '" + text + "'", x.fault(), fault);
+        is("place of '" + text + "'", x.where(), place);
+    }
+
+    /** A text that is a beast of so many scutes. */
+    static void fine(String text, int scutes) {
+        TurtleBack x = new TurtleBack();
+        is("beast of '" + text + "'", tell(x, text), scutes);
+        is("trouble of '" + text + "'", x.trouble(), 0);
+        is("fault of '" + text + "'", x.fault(), 0);
+        is("place of '" + text + "'", x.where(), -1);
     }
 
     /** The law, the beginning, and what else is told. */
