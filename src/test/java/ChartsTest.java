@@ -44,7 +44,10 @@ public final class ChartsTest {
         spanIs(x, 0, 1, 5, 5, 5, 5);
         spanIs(x, 1, 3, 4, 6, 4, 4);
         spanIs(x, 2, 7, 3, 7, 3, 4);
-        for (int n = 0; n <= 12; n++) Due.is("all ways of " + n + " days", all(x, n), POWERS[n]);
+        for (int n = 0; n <= 12; n++) {
+            TurtleBack fresh = turtle("dives 30 calm 9 hungry 30", "at 5,5 heads 0", SCUTE);
+            Due.is("all ways of " + n + " days", all(fresh, n), POWERS[n]);
+        }
         Due.is("no day passed", x.size(7), 0);
         Due.is("no draw", x.size(8), 0);
     }

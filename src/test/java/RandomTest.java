@@ -7,6 +7,8 @@ public final class RandomTest {
     private static long draw = 12345;
     private static int wrong = 0;
     private static int calls = 0;
+    /** Of one object: it is used for 512 calls at most. */
+    private static int ofOne = 0;
     private static final int[] told = new int[7];
 
     private static int below(int n) {
@@ -99,6 +101,7 @@ public final class RandomTest {
 
     private static void due(int run, String call, long got, long want) {
         calls++;
+        ofOne++;
         if (got == want) return;
         wrong++;
         if (wrong < 30) System.out.println("run " + run + ": " + call + " answered " + got + ", the model " + want);
@@ -175,6 +178,15 @@ public final class RandomTest {
         due(run, "size(" + a + ")", x.size(a), m.size(a));
     }
 
+    /** A text takes up to 50 calls, one of the others up to 5. */
+    private static void tellSome(int run, TurtleBack x, Model m, String text) {
+        if (ofOne + 50 <= 512) tell(run, x, m, text);
+    }
+
+    private static void callSome(int run, TurtleBack x, Model m, int many) {
+        for (int i = 0; i < many && ofOne + 5 <= 512; i++) call(run, x, m);
+    }
+
     private static int bound() {
         return below(3) == 0 ? about(0, 9999) : below(2) == 0 ? between(0, 30) : between(0, 300);
     }
@@ -196,18 +208,25 @@ public final class RandomTest {
     }
 
     public static void main(String[] args) {
-        int runs = args.length > 0 ? Integer.parseInt(args[0]) : 120;
+        int runs = args.length > 0 ? Integer.parseInt(args[0]) : 160;
         if (args.length > 1) draw = Long.parseLong(args[1]);
         for (int run = 0; run < runs; run++) {
             TurtleBack x = new TurtleBack();
             Model m = new Model();
-            for (int i = below(6); i > 0; i--) call(run, x, m);
-            for (int i = 0; i < 6; i++) tell(run, x, m, broken(beastText()));
-            for (int i = 0; i < 20; i++) call(run, x, m);
-            tell(run, x, m, beastText());
-            for (int i = 0; i < 120; i++) call(run, x, m);
-            if (below(2) == 0) tell(run, x, m, below(2) == 0 ? beastText() : broken(beastText()));
-            for (int i = 0; i < 60; i++) call(run, x, m);
+            ofOne = 0;
+            callSome(run, x, m, below(6));
+            for (int i = below(4); i > 0; i--) tellSome(run, x, m, broken(beastText()));
+            callSome(run, x, m, 10);
+            tellSome(run, x, m, beastText());
+            callSome(run, x, m, between(60, 160));
+            if (below(2) == 0) tellSome(run, x, m, below(2) == 0 ? beastText() : broken(beastText()));
+            callSome(run, x, m, 512);
+        }
+        for (int run = 0; run < 3 * runs; run++) {
+            TurtleBack x = new TurtleBack();
+            Model m = new Model();
+            ofOne = 0;
+            for (int i = 0; i < 12; i++) tellSome(-run, x, m, broken(beastText()));
         }
         System.out.println(calls + " calls, " + wrong + " of them wrong");
         for (int i = 0; i < told.length; i++) System.out.println("beasts with fault " + i + ": " + told[i]);
