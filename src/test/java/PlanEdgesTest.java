@@ -122,6 +122,9 @@ public final class PlanEdgesTest {
         TurtleBack both = turtle("feels 1 dives 30 calm 99 hungry 30", "5,5 heads 0",
                 "scute l at 4,5 holds 40;scute r at 6,5 holds 40;family f on l weighs 1");
         Due.is("never between", both.helm(), 5);
+        String line = "scute r at 6,5 holds 40;scute m at 5,5 holds 40;scute l at 4,5 holds 40;family f on m weighs 10";
+        Due.is("the left behind both others", plain(line).helm(), 7);
+        Due.is("the left ahead of both others", plain(SCUTES.replace(" 5,5", " 3,5") + ";family f on m weighs 10").helm(), 5);
         for (int holds = 9; holds <= 10; holds++) {
             Due.is("r holds " + holds, plain("scute m at 5,5 holds 40;scute r at 6,5 holds " + holds
                     + ";family f on m weighs 10").helm(), holds == 10 ? 6 : 2);
@@ -276,6 +279,22 @@ public final class PlanEdgesTest {
         Due.is("a new BEAST", Due.tell(x, Due.PLAIN), 3);
         Due.is("nothing SEEN", x.size(10), 0);
         Due.is("room again", x.seen(0, 1, 1), 1);
+    }
+
+    /** What an earlier BEAST was SEEN to do has no part in what comes then. */
+    private static void nothingSeenOfAnEarlierOne() {
+        Due.by("(DAY 0, SEED 0, nothing SEEN, no images)");
+        TurtleBack x = plain(SCUTES);
+        for (int i = 0; i < 6; i++) x.seen(20 - i, 9, 9);
+        Due.tell(x, Due.PLAIN);
+        Due.is("nothing SEEN: all CELLS, all HEADINGS", x.fits(), 800);
+        refusedBy6("was(0, 0)", x, x.was(0, 0));
+        Due.is("SEEN", x.seen(3, 1, 1), 1);
+        Due.is("was(3, 0)", x.was(3, 0), 1);
+        Due.is("was(0, 1)", x.was(0, 1), 4);
+        for (int day = 4; day <= 20; day++) refusedBy6("was(" + day + ", 0)", x, x.was(day, 0));
+        Due.is("SEEN", x.seen(2, 1, 1), 2);
+        for (int day = 4; day <= 20; day++) refusedBy6("was(" + day + ", 0)", x, x.was(day, 0));
     }
 
     private static void whatFits() {
@@ -553,6 +572,7 @@ public final class PlanEdgesTest {
         twelveDaysAtMost();
         threeAlike();
         sightings();
+        nothingSeenOfAnEarlierOne();
         whatFits();
         whereItWas();
         minutesTogether();
