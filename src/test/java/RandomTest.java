@@ -1,4 +1,5 @@
 import java.util.ArrayList;
+import java.util.Collections;
 import java.util.List;
 import java.util.NoSuchElementException;
 
@@ -64,7 +65,15 @@ public final class RandomTest {
         for (int i = Math.min(below(4), scutes); i > 0; i--) {
             lines.add((below(2) == 0 ? "moult s" : "young s") + name(i - 1) + " day " + between(1, 40));
         }
+        if (below(2) == 0) mix(lines, scutes);
         return String.join(";", lines);
+    }
+
+    /** Scutes come first, as they are told ahead of their use; all else stands anywhere behind them. */
+    private static void mix(List<String> lines, int scutes) {
+        lines.add(lines.remove(0));
+        lines.add(lines.remove(0));
+        for (int i = lines.size() - 1; i > scutes; i--) Collections.swap(lines, i, between(scutes, i));
     }
 
     private static String name(int i) {
